@@ -420,7 +420,8 @@ public final class GraveSegments {
         static long sumOf(int[] bytes, int from, int to) {
             long sum = 0;
             for (int i = from; i < to; i++) {
-                sum = Long.rotateLeft(sum ^ bytes[i], SUM_TURN) * SUM_FACTOR;
+                long mixed = sum ^ bytes[i];
+                sum = (mixed << SUM_TURN | mixed >>> (64 - SUM_TURN)) * SUM_FACTOR;
             }
             return sum;
         }

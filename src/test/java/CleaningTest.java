@@ -12,6 +12,7 @@ final class CleaningTest {
         endsWithoutRoom();
         needsNoRoomForNothing();
         looksForRoomBeforeItCopies();
+        fillsTheRoomToTheLastByte();
         takesTheRestOfTheWrittenOneFirst();
         keepsGravesWhileTheyAreNeeded();
         keepsOneOfEqualRows();
@@ -205,6 +206,21 @@ final class CleaningTest {
         CHECKS.due("used", y.used(1), 180);
         CHECKS.due("used of the FREE one", y.used(2), 36);
         CHECKS.due("WRITTEN", y.count(7), 2);
+    }
+
+    private static void fillsTheRoomToTheLastByte() {
+        for (int more = 4; more <= 5; more++) {
+            GraveSegments x = new GraveSegments(2);
+            for (int i = 0; i < 9; i++) {
+                Rows.putLong(x, i % 5);
+            }
+            for (int i = 0; i < more; i++) {
+                x.feed(1, 1);
+            }
+            x.put(20);
+            CHECKS.due("clean with " + more + " more bytes", x.clean(1, 2, -1), more == 4 ? 1 : 0);
+            CHECKS.due("used with " + more + " more bytes", x.used(1), more == 4 ? 200 : 165);
+        }
     }
 
     /** A row that does not fit makes a FREE one WRITTEN: what follows goes there, too. */
