@@ -1,6 +1,7 @@
 import java.math.BigInteger;
+import java.util.Arrays;
 
-/** Rows in bytes, made by the words of the document alone, and ways to set them into an object. */
+/** Rows in bytes, made by the words of the document alone. */
 final class Rows {
     static final int ROW = 1;
     static final int GRAVE = 2;
@@ -17,6 +18,13 @@ final class Rows {
 
     static int[] grave(int key, int number) {
         return bytes(GRAVE, key, number);
+    }
+
+    /** Twenty bytes of CONTENTS. */
+    static int[] twenty(int value) {
+        int[] contents = new int[20];
+        Arrays.fill(contents, value & 0xFF);
+        return contents;
     }
 
     /** The bytes of a row, its SUM fitting, whatever the other parts are. */
@@ -50,28 +58,5 @@ final class Rows {
             s = s.multiply(FACTOR).mod(LONG);
         }
         return s;
-    }
-
-    /** Makes the bytes of a closed object's segment, from a place on, the ones told. */
-    static void set(GraveSegments x, int segment, int at, int... bytes) {
-        for (int i = 0; i < bytes.length; i++) {
-            x.poke(segment, at + i, x.byteAt(segment, at + i) ^ bytes[i]);
-        }
-    }
-
-    /** Feeds bytes one by one and puts them. */
-    static int put(GraveSegments x, int key, int... contents) {
-        for (int b : contents) {
-            x.feed(b, 1);
-        }
-        return x.put(key);
-    }
-
-    /** A row of 36 bytes: five of them leave 20 bytes of a segment, where one of 20 fits. */
-    static int putLong(GraveSegments x, int key) {
-        for (int i = 0; i < 5; i++) {
-            x.feed(key, 4);
-        }
-        return x.put(key);
     }
 }
