@@ -306,18 +306,13 @@ public final class GraveSegments {
         }
     }
 
-    /** One FREE SEGMENT is enough, since the survivors come out of a single SEGMENT. */
+    /** One FREE SEGMENT takes all the rest, since the survivors come out of a single SEGMENT. */
     private boolean survivorsHaveRoom() {
         int room = segments.roomInWritten();
-        boolean freeLeft = segments.leastFree() != NONE;
         for (int i = 0; i < survivorCount; i++) {
             int size = index.bytesOf(survivors[i]);
             if (size > room) {
-                if (!freeLeft) {
-                    return false;
-                }
-                freeLeft = false;
-                room = Segments.SIZE;
+                return segments.leastFree() != NONE;
             }
             room -= size;
         }
